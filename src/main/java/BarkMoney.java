@@ -286,7 +286,8 @@ public final class BarkMoney {
         if (!realm.hasPerson(person) || !realm.hasGood(good) || !isAmount(n)) {
             return refuse(BAD_NUMBER);
         }
-        return answerIfDone(realm.purchase(teller, person, good, n));
+        long way = realm.wayToBuy(teller, person, good, n);
+        return answerIfDone(realm.purchase(person, good, n, way));
     }
 
     public int sell(int person, int good, int n) {
@@ -401,7 +402,7 @@ public final class BarkMoney {
         if (!realm.hasPerson(person) || !isSum(sum)) {
             return refuse(BAD_NUMBER);
         }
-        long way = teller.fillFromPurse(realm, person, sum);
+        long way = teller.wayFromPurse(realm, person, sum);
         return way == Teller.NO_WAY ? refuse(NONE_SUCH) : answer(Teller.sheetsIn(way));
     }
 
@@ -409,7 +410,7 @@ public final class BarkMoney {
         if (!realm.hasPurse(person, kind) || !isSum(sum)) {
             return refuse(BAD_NUMBER);
         }
-        long way = teller.fillFromPurse(realm, person, sum);
+        long way = teller.wayFromPurse(realm, person, sum);
         return way == Teller.NO_WAY ? refuse(NONE_SUCH) : answer(Teller.sheetsOfKind(way, kind));
     }
 
@@ -417,7 +418,7 @@ public final class BarkMoney {
         if (!realm.hasPerson(person)) {
             return refuse(BAD_NUMBER);
         }
-        teller.fillFromPurse(realm, person, MAX_SUM);
+        teller.fillFromPurse(realm, person, MAX_SUM, realm.kinds);
         int many = 0;
         for (int sum = 1; sum <= MAX_SUM; sum++) {
             many += teller.isPayable(sum) ? 1 : 0;
@@ -430,7 +431,7 @@ public final class BarkMoney {
             return refuse(BAD_NUMBER);
         }
         int most = Math.min(MAX_SUM, realm.wealthOf(person));
-        teller.fillFromPurse(realm, person, most);
+        teller.fillFromPurse(realm, person, most, realm.kinds);
         for (int sum = 1; sum <= most; sum++) {
             if (!teller.isPayable(sum)) {
                 return answer(sum);
@@ -446,7 +447,7 @@ public final class BarkMoney {
         long price = realm.priceOf(good);
         int most = Math.min(MAX_AT_ONCE, realm.stocks[good]);
         most = Math.min(most, MAX_HELD - realm.owned[Land.chest(person, good)]);
-        teller.fillFromPurse(realm, person, MAX_SUM);
+        teller.fillFromPurse(realm, person, MAX_SUM, realm.kinds);
         for (int n = most; n >= 1; n--) {
             if (n * price <= MAX_SUM && teller.isPayable((int) (n * price))) {
                 return answer(n);
@@ -1018,11 +1019,11 @@ public final class BarkMoney {
                 return Teller.NO_WAY;
             }
             long sum = n * priceOf(good);
-            return sum > MAX_SUM ? Teller.NO_WAY : teller.fillFromPurse(this, person, (int) sum);
+            return sum > MAX_SUM ? Teller.NO_WAY : teller.wayFromPurse(this, person, (int) sum);
         }
 
-        int purchase(Teller teller, int person, int good, int n) {
-            long way = wayToBuy(teller, person, good, n);
+        /** Buys in the way that wayToBuy() found; how many sheets that takes. */
+        int purchase(int person, int good, int n, long way) {
             if (way == Teller.NO_WAY) {
                 return NONE;
             }
@@ -1203,16 +1204,41 @@ public final class BarkMoney {
             table[0] = 0;
         }
 
+        /** Only this sum is asked, so the last KIND needs no row of sums of its own. */
+        long wayFromPurse(Land land, int person, int sum) {
+            if (land.worthOf(land.whole, person) < sum) {
+                return NO_WAY;
+            }
+            int last = land.kinds - 1;
+            if (last < 0) {
+                return 0;
+            }
+            fillFromPurse(land, person, sum, last);
+            int worth = Math.max(1, land.worths[last]);
+            int many = Math.min(land.whole[Land.purse(person, last)], sum / worth);
+            long cost = costOf(last);
+            long best = NO_WAY;
+            for (int i = 0; i <= many; i++) {
+                best = Math.min(best, table[sum - i * worth] + i * cost);
+            }
+            return best;
+        }
+
         /**
-         * The way in which a PERSON can PAY each sum up to this one, whose way is answered.
+         * The way in which a PERSON can PAY each sum up to this one by the first KINDS.
          * Bundles of 1, 2, 4 .. sheets and a rest make up every number of sheets that he has.
          */
-        long fillFromPurse(Land land, int person, int sum) {
+        void fillFromPurse(Land land, int person, int sum, int kinds) {
             beginWays(sum);
             int reach = 0;
-            for (int kind = 0; kind < land.kinds; kind++) {
+            for (int kind = 0; kind < kinds; kind++) {
                 int worth = Math.max(1, land.worths[kind]);
                 int many = Math.min(land.whole[Land.purse(person, kind)], sum / worth);
+                if (reach == 0) {
+                    reach = many * worth;
+                    layAlone(worth, costOf(kind), many);
+                    many = 0;
+                }
                 for (int bundle = 1; bundle <= MAX_SUM && many > 0; bundle *= 2) {
                     int size = Math.min(bundle, many);
                     reach = Math.min(sum, reach + size * worth);
@@ -1220,7 +1246,13 @@ public final class BarkMoney {
                     many -= size;
                 }
             }
-            return table[sum];
+        }
+
+        /** The first KIND that he has needs no bundles: there is one way to each of its sums. */
+        void layAlone(int worth, long cost, int many) {
+            for (int i = 1; i <= many; i++) {
+                table[i * worth] = i * cost;
+            }
         }
 
         /** From above, so that a bundle is not used twice. */
@@ -1274,7 +1306,7 @@ public final class BarkMoney {
         }
 
         /** By how much the one whose turn it is comes out ahead of the other. */
-        int lead(Land land, int mover, int rival, int turns) {
+        private int lead(Land land, int mover, int rival, int turns) {
             if (turns <= 0) {
                 return 0;
             }
@@ -1894,25 +1926,29 @@ public final class BarkMoney {
             int n = reigns.numbers[line];
             switch (reigns.words[line]) {
                 case TextReader.PAY: return land.printFor(person, object, n) != NONE;
-                case TextReader.BUY: return isBought(land.purchase(teller, person, object, n), n);
                 case TextReader.SELL: return land.takeGoods(teller, person, object, n) != NONE;
                 case TextReader.TEAR: return land.tearUp(person, object, n) != NONE;
                 case TextReader.MEND: return land.mendTorn(person, object, n) != NONE;
                 case TextReader.MONTH: return isPassed(land.passMonths(n), n);
-                case TextReader.ANY: break;
-                default: return true;
+                case TextReader.BUY:
+                    break;
+                case TextReader.ANY:
+                    if (land.people == 0 || land.goods == 0) {
+                        return false;
+                    }
+                    person = draw(land.people);
+                    object = draw(land.goods);
+                    n = 1;
+                    break;
+                default:
+                    return true;
             }
-            if (land.people == 0 || land.goods == 0) {
+            long way = land.wayToBuy(teller, person, object, n);
+            if (land.purchase(person, object, n, way) == NONE) {
                 return false;
             }
-            person = draw(land.people);
-            object = draw(land.goods);
-            return isBought(land.purchase(teller, person, object, 1), 1);
-        }
-
-        boolean isBought(int sheets, int n) {
-            bought += sheets == NONE ? 0 : n;
-            return sheets != NONE;
+            bought += n;
+            return true;
         }
 
         boolean isPassed(boolean passed, int many) {
