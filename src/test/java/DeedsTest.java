@@ -240,6 +240,9 @@ public final class DeedsTest {
         fill(x, 1, 0, 9998);
         c.due("above 9,999", x, x.give(0, 1, 0, 2), false, 7);
         c.due("to 9,999", x, x.give(0, 1, 0, 1), true, 0);
+        c.due("all that he has", x, x.give(0, 1, 0, 4), false, 7);
+        x.burn(1, 0, 99);
+        c.due("all that he has", x, x.give(0, 1, 0, 4), true, 0);
     }
 
     private static void burning() {

@@ -203,6 +203,21 @@ public final class LandTextTest {
         c.due("no reigns in a new land", x, x.live(0), -1, 6);
         Check.feed(x, "person p; person q;");
         c.due("the first bytes alone", x, x.land(9), 1, 0);
+        String rich = "person a; person b; kind k worth 5; kind l worth 6; has a k 1; has a l 2; has b k 3; has b l 4; good g value 1;";
+        for (int i = 0; i < 3; i++) {
+            Check.land(x, rich);
+            x.tear(0, 0, 1);
+            x.tear(1, 1, 1);
+            x.burn(1, 1, 1);
+            x.pay(0, 0, 9);
+            x.buy(0, 0, 5);
+            x.month(1);
+        }
+        Check.land(x, "person a; person b; kind k worth 5; kind l worth 6; good g value 1;");
+        for (int what = 6; what < 12; what++) {
+            c.due("told(" + what + ") of a new land", x.told(what), what == 7 ? 1 : 0);
+        }
+        c.due("goods of a new land", x.goods(0, 0), 0);
     }
 
     private static void told() {
@@ -229,6 +244,7 @@ public final class LandTextTest {
         c.due("out has torn ones", x, x.told(8), 115, 0);
         x = Check.in("person p; kind k worth 500; has p k 999; calm 10; good g value 99;");
         c.due("calm told behind", x.told(7), 49951);
+        c.due("war waits for a month", Check.in("calm 10; war 999;").told(7), 1);
         c.due("price", x.good(0, 2), 99 * 49951);
     }
 

@@ -174,6 +174,10 @@ public final class LivesTest {
             }
             lived("draws", x, 0, 0, 3, 0, 0);
         }
+        BarkMoney x = Check.in("kind k worth 1; good g value 1; person p; has p k 9;");
+        Check.reigns(x, "loop 9; any; end;");
+        x.live(3);
+        lived("draws by one", x, 0, 0, 9, 0, 0);
     }
 
     private static void means() {

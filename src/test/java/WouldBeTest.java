@@ -57,6 +57,10 @@ public final class WouldBeTest {
         c.due("999", x, x.monthsTill(999), -1, 6);
         c.due("1000", x, x.monthsTill(1000), -1, 1);
         c.due("nothing is done", x.told(6), 0);
+        x = Check.in("calm 1000; war 1;");
+        c.due("999 are out in 999 months", x, x.monthsTill(1), -1, 6);
+        x.rule(0, 999);
+        c.due("in 999 months", x, x.monthsTill(1), 999, 0);
     }
 
     private static void payments() {
@@ -91,6 +95,22 @@ public final class WouldBeTest {
         c.due("all", x, x.payable(1), 999, 0);
         c.due("none that he can't", x, x.firstNot(1), -1, 6);
         c.due("500 + 55 x 9 + 4", x, x.fewest(1, 999), 60, 0);
+        x = Check.in("kind a worth 1; kind b worth 1; kind d worth 1; kind e worth 1; person p; has p a 600; has p d 100; has p e 299;");
+        int[] due = {600, 0, 100, 299};
+        for (int kind = 0; kind < 4; kind++) {
+            c.due("all of kind " + kind, x, x.payWith(0, 999, kind), due[kind], 0);
+        }
+        c.due("of the last kind", x, x.payWith(0, 703, 3), 3, 0);
+        x = Check.in("kind a worth 50; kind b worth 30; kind d worth 20; kind e worth 7; person p; has p a 1; has p b 2; has p d 1; has p e 2;");
+        int[] less = {1, 0, 0, 2};
+        for (int kind = 0; kind < 4; kind++) {
+            c.due("64 with kind " + kind, x, x.payWith(0, 64, kind), less[kind], 0);
+        }
+        c.due("50 + 2 x 7", x, x.fewest(0, 64), 3, 0);
+        c.due("of 50 and of 30 + 20 the first", x, x.fewest(0, 50), 1, 0);
+        x = Check.in("person p;");
+        c.due("nothing without kinds", x, x.fewest(0, 0), 0, 0);
+        c.due("a sum without kinds", x, x.fewest(0, 1), -1, 6);
     }
 
     private static void couldBuy() {
@@ -106,6 +126,9 @@ public final class WouldBeTest {
         c.due("stock of 999 at 1, 995 can be paid", x, x.couldBuy(0, 2), 995, 0);
         x = Check.in("calm 10; kind a worth 500; good g value 99; person p; has p a 9;");
         c.due("too dear", x, x.couldBuy(0, 0), 0, 0);
+        x = Check.in("calm 9999; kind a worth 1; good g value 1 stock 999; good h value 3 stock 999; person p; has p a 999;");
+        c.due("for 999", x, x.couldBuy(0, 0), 999, 0);
+        c.due("for 999", x, x.couldBuy(0, 1), 333, 0);
     }
 
     private static void changes() {
@@ -118,6 +141,7 @@ public final class WouldBeTest {
         c.due("least", x, x.leastSheets(999), 999, 0);
         x = Check.in("kind a worth 6; kind b worth 10; kind d worth 15;");
         c.due("30", x, x.changes(30), 3, 0);
+        c.due("30 again", x, x.changes(30), 3, 0);
         c.due("29", x, x.changes(29), 0, 0);
         c.due("least of 29", x, x.leastSheets(29), -1, 6);
         c.due("least of 30", x, x.leastSheets(30), 2, 0);
@@ -168,6 +192,9 @@ public final class WouldBeTest {
         c.due("no such kind", x, x.losers(-1), -1, 1);
         x.tear(0, 0, 9);
         c.due("torn ones count", x, x.loses(0, 0), 25, 0);
+        x = Check.in("kind k worth 1; kind l worth 4; person p; person q; has p k 5; has q k 5; has q l 1;");
+        c.due("1", x, x.loses(0, 0), 1, 0);
+        c.due("both lose 1", x, x.losers(0), 3, 0);
     }
 
     private static void kept() {
@@ -260,6 +287,8 @@ public final class WouldBeTest {
         // 9 are out: 1 of 1 makes 10: 10 more unrest against 1
         c.due("not paid", x, x.plan(3, 1), 3, 0);
         c.due("not paid", x, x.planFirst(3, 1), 0, 0);
+        c.due("1 of 4 is too much", x, x.plan(1, 4), 4, 0);
+        c.due("1 of 4 is too much", x, x.planFirst(1, 4), 0, 0);
     }
 
     private static final String FAIR = "calm 9999; kind a worth 5; good g value 10 stock 1; good h value 15 stock 1; good i value 20 stock 1;"
