@@ -59,7 +59,9 @@ public final class BasicsTest {
         c.due("last place", x, x.read(3, 59), 0, 0);
         c.due("behind it", x, x.read(3, 60), -1, 3);
         x.write(3, 59, 7);
+        x.write(3, 0, 7);
         x.tray(3, 3, 60);
+        c.due("0s again", x, x.read(3, 0), 0, 0);
         c.due("0s again", x, x.read(3, 59), 0, 0);
     }
 

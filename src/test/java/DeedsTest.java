@@ -154,6 +154,11 @@ public final class DeedsTest {
         c.due("level", x.told(7), 1);
         c.due("2 can't be paid by 4s", x, x.sell(0, 0, 1), -1, 7);
         stockAndSheetsAreFull();
+        x = Check.in("calm 9999; kind k worth 9; good g value 9 stock 999; person p; has p k 400;");
+        x.buy(0, 0, 111);
+        x.buy(0, 0, 1);
+        c.due("for 1,008", x, x.sell(0, 0, 112), -1, 7);
+        c.due("for 999", x, x.sell(0, 0, 111), 111, 0);
     }
 
     private static void stockAndSheetsAreFull() {
@@ -271,6 +276,7 @@ public final class DeedsTest {
         c.due("no such kind", x, x.cross(0, 1, 1), -1, 1);
         x = Check.in("calm 10; kind k worth 1; person p; has p k 20; kind l worth 500; has p l 1;");
         c.due("1 by 53", x, x.cross(0, 0, 1), 0, 0);
+        c.due("all that he has", x, x.cross(0, 1, 1), 9, 0);
         x = Check.in("calm 9999; kind k worth 500; person p silver 999; kind l worth 1;");
         fill(x, 0, 0, 998);
         fill(x, 0, 1, 2);

@@ -59,6 +59,7 @@ public final class LandTextTest {
         fine("kind k worth 0005;", 0);
         fine("person calmer;person perso;person fees;", 3);
         fine("person abcdefgh;", 1);
+        fine("person abcdefgh; person abcdefgi; person bbcdefgh;", 3);
         faulty("calm 100;\tfee 3;", 1, 9);
         faulty("Calm 100;", 1, 0);
         faulty("calm 00100;", 1, 5);
@@ -268,6 +269,8 @@ public final class LandTextTest {
         c.due("silver(-1)", x, x.silver(-1), -1, 1);
         c.due("worth(2, 0)", x, x.worth(2, 0), -1, 1);
         c.due("worth(0, 2)", x, x.worth(0, 2), -1, 1);
+        c.due("worth(0, -1)", x, x.worth(0, -1), -1, 1);
+        c.due("sheets(0, 0, -1)", x, x.sheets(0, 0, -1), -1, 1);
     }
 
     private static void richest() {

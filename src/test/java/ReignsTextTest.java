@@ -7,6 +7,7 @@ public final class ReignsTextTest {
         ordinary();
         tokensAndSigns();
         names();
+        allNames();
         numbers();
         counts();
         nesting();
@@ -101,6 +102,23 @@ public final class ReignsTextTest {
         faulty("pay any k 1;", 2, 4);
     }
 
+    /** Every name of a LAND with as many as can be means its own thing. */
+    private static void allNames() {
+        BarkMoney x = Check.in(FULL);
+        c.due("pay", x, Check.reigns(x, "pay pd ka 1; pay pc kb 2; pay pb kc 3; pay pa kd 4; pay pe ka 5;"), 5, 0);
+        x.live(0);
+        c.due("sheets", x.sheets(3, 0, 0) * 10000 + x.sheets(2, 1, 0) * 1000 + x.sheets(1, 2, 0) * 100 + x.sheets(0, 3, 0) * 10
+            + x.sheets(4, 0, 0), 12345);
+        c.due("buy", x, Check.reigns(x, "buy pe ga 1; buy pe gb 1; buy pe gc 1; buy pe gd 1; buy pe ge 1;"), 5, 0);
+        x.live(0);
+        c.due("all can be bought but the dearest three", x, x.lived(0), 3, 0);
+        c.due("goods", x.goods(4, 0) + x.goods(4, 1) * 10 + x.goods(4, 2) * 100, 11);
+    }
+
+    private static final String FULL = "calm 9999; kind ka worth 1; kind kb worth 2; kind kc worth 3; kind kd worth 4;"
+        + "good ga value 1; good gb value 2; good gc value 3; good gd value 4; good ge value 5;"
+        + "person pa; person pb; person pc; person pd; person pe;";
+
     private static void numbers() {
         String[] deeds = {"pay p k ", "buy p g ", "sell p g ", "tear p k ", "mend p k "};
         for (String deed : deeds) {
@@ -131,6 +149,7 @@ public final class ReignsTextTest {
         faulty(text + "any;any;any", 6, text.length() + 8);
         faulty(text + "any;any;end", 2, text.length() + 8);
         faulty(text + "any;any;calm", 2, text.length() + 8);
+        fine("loop 1;end;".repeat(27), 27);
     }
 
     private static void nesting() {

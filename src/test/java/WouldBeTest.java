@@ -19,6 +19,7 @@ public final class WouldBeTest {
         nothingComesLast();
         copying();
         counting();
+        asManyAsCanBe();
         c.end();
     }
 
@@ -126,6 +127,8 @@ public final class WouldBeTest {
         c.due("stock of 999 at 1, 995 can be paid", x, x.couldBuy(0, 2), 995, 0);
         x = Check.in("calm 10; kind a worth 500; good g value 99; person p; has p a 9;");
         c.due("too dear", x, x.couldBuy(0, 0), 0, 0);
+        x = Check.in("calm 9999; kind a worth 5; good g value 15; person p; has p a 4;");
+        c.due("just 1", x, x.couldBuy(0, 0), 1, 0);
         x = Check.in("calm 9999; kind a worth 1; good g value 1 stock 999; good h value 3 stock 999; person p; has p a 999;");
         c.due("for 999", x, x.couldBuy(0, 0), 999, 0);
         c.due("for 999", x, x.couldBuy(0, 1), 333, 0);
@@ -161,6 +164,7 @@ public final class WouldBeTest {
         c.due("price 14 and 20", x, x.baskets(34), 1, 0);
         c.due("140", x, x.baskets(140), 2, 0);
         c.due("odd", x, x.baskets(35), 0, 0);
+        c.due("499 of 7s and 10s: 7 x 7 + 45 x 10 and so on", x, x.baskets(998), 7, 0);
         c.due("17", x, x.baskets(17), 0, 0);
         c.due("most for 40", x, x.mostValue(40), 20, 0);
         c.due("most for 50", x, x.mostValue(50), 24, 0);
@@ -170,6 +174,9 @@ public final class WouldBeTest {
         c.due("-1", x, x.mostValue(-1), -1, 1);
         c.due("1000", x, x.mostValue(1000), -1, 1);
         c.due("most for 999", x, x.mostValue(999), 499, 0);
+        x = Check.in("good a value 7 stock 0; good b value 10;");
+        c.due("most at level 1", x, x.mostValue(23), 21, 0);
+        c.due("most at level 1", x, x.mostValue(24), 24, 0);
         x = Check.in("calm 10; kind k worth 500; person p; has p k 999; good a value 99;");
         c.due("too dear", x, x.mostValue(999), 0, 0);
         c.due("too dear", x, x.baskets(999), 0, 0);
@@ -203,6 +210,7 @@ public final class WouldBeTest {
         c.due("33", x, x.keptOf(33), 1, 0);
         c.due("34", x, x.keptOf(34), 2, 0);
         c.due("100", x, x.keptOf(100), 3, 0);
+        c.due("67", x, x.keptOf(67), 3, 0);
         c.due("9,999", x, x.keptOf(9999), 300, 0);
         c.due("0", x, x.keptOf(0), -1, 1);
         c.due("10,000", x, x.keptOf(10000), -1, 1);
@@ -247,6 +255,7 @@ public final class WouldBeTest {
         c.due("30, 15", x, x.looks(30, 15), 1, 0);
         c.due("30, 14", x, x.looks(30, 14), 2, 0);
         c.due("none", x, x.looks(30, 0), -1, 6);
+        c.due("1, 1", x, x.looks(1, 1), 1, 0);
         c.due("n 0", x, x.looks(0, 0), -1, 1);
         c.due("n 31", x, x.looks(31, 1), -1, 1);
         c.due("m", x, x.looks(5, 6), -1, 1);
@@ -262,6 +271,8 @@ public final class WouldBeTest {
         c.due("100 twice", x, x.planFirst(2, 100), 100, 0);
         c.due("nothing", x, x.plan(5, 0), 50, 0);
         c.due("nothing", x, x.planFirst(5, 0), 0, 0);
+        c.due("999: all makes 1,104 out", x, x.plan(1, 999), 110, 0);
+        c.due("999", x, x.planFirst(1, 999), 999, 0);
         c.due("0 months", x, x.plan(0, 1), -1, 1);
         c.due("6 months", x, x.plan(6, 1), -1, 1);
         c.due("need -1", x, x.plan(1, -1), -1, 1);
@@ -345,6 +356,28 @@ public final class WouldBeTest {
         c.due("no stock", x, x.moveOf(0, 1, 3), -1, 6);
     }
 
+    /** Rows that are full to the last place. */
+    private static void asManyAsCanBe() {
+        BarkMoney x = Check.in("calm 9999; kind a worth 1; kind b worth 2; kind d worth 3; kind e worth 4;"
+            + "good f value 5; good g value 6; good h value 7; good i value 8; good j value 9;"
+            + "person p; person q; person r; person s; person t; has t a 9; has t e 9; has s d 1; has q e 3;");
+        c.due("richest", x, x.richest(), 4, 0);
+        c.due("out", x, x.told(8), 60, 0);
+        c.due("losers", x, x.losers(2), 8, 0);
+        c.due("losers", x, x.losers(0), 16, 0);
+        c.due("9 - 8 + 9", x, x.game(4, 1, 3), 10, 0);
+        c.due("move", x, x.moveOf(4, 1, 3), 4, 0);
+        c.due("buy", x, x.buy(4, 4, 1), 3, 0);
+        c.due("1 + 4 + 4", x, x.sheets(4, 0, 0) * 10 + x.sheets(4, 3, 0), 87, 0);
+        c.due("sell", x, x.sell(4, 4, 1), 3, 0);
+        c.due("renew", x, x.renew(0), 7, 0);
+        c.due("sheets", x, x.sheets(4, 1, 0), 1, 0);
+        c.due("mark and undo", x.mark() + x.undo(), 1);
+        x.tray(0, 0, 4);
+        c.due("copy", x, x.copySheets(4, 0), 4, 0);
+        c.due("count", x, x.count(0), 38, 0);
+    }
+
     private static void copying() {
         BarkMoney x = Check.in("kind a worth 5; kind b worth 20; person p; person q; has q a 300; has q b 2;");
         c.due("missing", x, x.copySheets(1, 0), -1, 2);
@@ -380,6 +413,8 @@ public final class WouldBeTest {
         x.write(0, 1, 9999);
         x.write(0, 2, -5);
         c.due("count", x, x.count(0), 15 + 9999 * 500, 0);
+        x.write(0, 0, 0);
+        c.due("a 0 can be", x, x.count(0), 9999 * 500, 0);
         x.write(0, 1, 10000);
         c.due("above 9,999", x, x.count(0), -1, 5);
         x.write(0, 1, -1);
