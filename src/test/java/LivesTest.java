@@ -87,6 +87,13 @@ public final class LivesTest {
         Check.reigns(x, "any;");
         x.live(0);
         lived("any without people", x, 1, 0, 0, 0, 0);
+        // goods of a land that is gone must not be there any more
+        x = Check.in("kind k worth 1; good g value 1; person p; has p k 9;");
+        Check.land(x, "kind k worth 1; good g value 1; person p; has p k 9;");
+        Check.land(x, "kind k worth 1; person p; has p k 9;");
+        Check.reigns(x, "any;");
+        x.live(0);
+        lived("any where goods were once", x, 1, 0, 0, 0, 0);
     }
 
     private static void loopsAndWhens() {
