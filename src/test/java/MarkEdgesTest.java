@@ -10,6 +10,7 @@ public final class MarkEdgesTest {
         allIsTakenBack();
         theLatestFirst();
         marksOfLandsAndReigns();
+        everyLineOfReigns();
         whatIsNoPartOfAMark();
         marksOutliveALand();
         aMarkIsKeptAsItIs();
@@ -121,6 +122,34 @@ public final class MarkEdgesTest {
         c.due("9 + 3", x.sheets(0, 0, 0), 12);
         c.due("its names", x, Check.reigns(x, "buy p g 1; tear p k 1;"), 2, 0);
         c.due("not those of the second LAND", x, Check.reigns(x, "pay k p 1;"), -1, 9);
+    }
+
+    /** REIGNS of every shape, to the last line, are taken back over others of every shape. */
+    private static void everyLineOfReigns() {
+        String[] shapes = {
+            "when level > 2; pay bo leaf 2; end; loop 3; month 1; when left silk < 9; stop; end; end; any;",
+            "loop 2; when holds bo = 65; tear bo leaf 5; end; when level = 3; mend bo leaf 1; end; end; buy ann silk 1; sell ann silk 1;",
+            "loop 1; end; ".repeat(22),
+            "any;".repeat(30),
+            "loop 2; loop 2; loop 2; any; end; month 1; end; when level < 9; pay cy wood 3; end; end;",
+            "loop 1;end;".repeat(26) + "pay bo leaf 9;",
+            "stop;",
+            ""
+        };
+        for (String shape : shapes) {
+            Twins t = new Twins(c, x -> {
+                Twins.RICH.accept(x);
+                x.reigns(0);
+                Twins.take(x, shape, false);
+            });
+            for (String other : shapes) {
+                BarkMoney x = t.fresh();
+                x.mark();
+                Twins.take(x, other, false);
+                c.due("undo", x, x.undo(), 2, 0);
+                t.same("'" + other + "' in place of '" + shape + "' taken back", t.fresh(), x);
+            }
+        }
     }
 
     private static void whatIsNoPartOfAMark() {
