@@ -1297,7 +1297,8 @@ public final class BarkMoney {
 
     /** The GAME of two who buy; what is tried on the LAND is taken back. */
     private static final class Match {
-        static final int CANNOT = Integer.MIN_VALUE;
+        /** Below every lead: no GOOD is worth more than 99, and there are three turns. */
+        static final int CANNOT = -1000;
 
         final Teller teller;
 

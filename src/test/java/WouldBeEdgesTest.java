@@ -32,6 +32,7 @@ public final class WouldBeEdgesTest {
         games();
         gamesAsBuyDoes();
         moves();
+        poorAgainstRich();
         copySheets();
         count();
         withoutAnything();
@@ -566,6 +567,25 @@ public final class WouldBeEdgesTest {
         order.asked("3 alone", x -> x.moveOf(0, 1, 1), 1);
         Twins later = Twins.in(c, "calm 9999; kind a worth 3; good g value 3; person p; person q; has p a 1;");
         later.asked("now or later is as good: nothing comes last", x -> x.moveOf(0, 1, 3), 0);
+    }
+
+    /** The first has 1, the second 200: what the first leaves, the second does not take a second time. */
+    private static void poorAgainstRich() {
+        String goods = "good g value 1; good h value 99 stock 2;";
+        Twins poor = Twins.in(c, "calm 9999; kind a worth 1;" + goods + "person p; person q; has p a 1; has q a 200;");
+        poor.asked("1 - 99", x -> x.game(0, 1, 2), -98);
+        poor.asked("no third for the first", x -> x.game(0, 1, 3), -98);
+        poor.asked("99 - 1 + 99", x -> x.game(1, 0, 3), 197);
+        poor.asked("far behind, he buys all the same", x -> x.moveOf(0, 1, 2), 0);
+        poor.asked("far behind, he buys all the same", x -> x.moveOf(0, 1, 3), 0);
+        Twins bare = Twins.in(c, "calm 9999; kind a worth 1;" + goods + "person p; person q; has q a 200;");
+        bare.asked("nothing, 99, nothing", x -> x.game(0, 1, 3), -99);
+        bare.asked("99, nothing, 99", x -> x.game(1, 0, 3), 198);
+        bare.beyond("nothing in any turn", 6, x -> x.moveOf(0, 1, 1), x -> x.moveOf(0, 1, 2), x -> x.moveOf(0, 1, 3));
+        // the most and the least that a GAME can be
+        Twins same = Twins.in(c, "calm 9999; kind a worth 1; good h value 99 stock 3; person p; person q; has p a 198; has q a 99;");
+        same.asked("99 - 99 + 99", x -> x.game(0, 1, 3), 99);
+        same.asked("99 - 99", x -> x.game(1, 0, 3), 0);
     }
 
     // ---- TRAYS of sheets
